@@ -403,8 +403,13 @@ public final class StolenFinals {
     /** As itemsStandApart(), of two BLOCKS that are not in THE ROW yet. */
     private boolean codesStandApart(int code, int next) {
         scratch.clear();
-        scratch.takeCode(script, code);
-        scratch.takeCode(script, next);
+        for (int slot = 0; slot < 2 * CODE_SLOTS; slot++) {
+            boolean ofNext = slot >= CODE_SLOTS;
+            int key = script.slotKey(ofNext ? next : code, ofNext ? slot - CODE_SLOTS : slot);
+            if (key != ABSENT) {
+                scratch.take(script, key);
+            }
+        }
         return scratch.items == 2 && scratch.codeAt(script, 0) == code && scratch.codeAt(script, 1) == next;
     }
 
@@ -752,13 +757,10 @@ public final class StolenFinals {
             return letter >= 0 && letter < LETTERS ? singleNumbers[letter] : ABSENT;
         }
 
-        /** The number that a number has with one KEY more, or ABSENT; of "none" that KEY's own. */
+        /** The number that a single KEY's number has with one KEY more, or ABSENT. */
         int numberWith(int number, int key) {
             if (number < 0 || number >= singles) {
                 return ABSENT;
-            }
-            if (firstKeys[number] == ABSENT) {
-                return numberOf(key);
             }
             for (int two = singles; two < count; two++) {
                 if (firstKeys[two] == firstKeys[number] && secondKeys[two] == key) {
@@ -782,7 +784,10 @@ public final class StolenFinals {
         }
 
         int latestKey(int number) {
-            return number < singles ? firstKey(number) : secondKey(number);
+            if (number < 0 || number >= count) {
+                return ABSENT;
+            }
+            return number < singles ? firstKeys[number] : secondKeys[number];
         }
     }
 
@@ -1342,15 +1347,6 @@ public final class StolenFinals {
             places = 1;
         }
 
-        void takeCode(Script script, int code) {
-            for (int slot = 0; slot < CODE_SLOTS; slot++) {
-                int key = script.slotKey(code, slot);
-                if (key != ABSENT) {
-                    take(script, key);
-                }
-            }
-        }
-
         void take(Script script, int sign) {
             if (places >= ROW_LIMIT || items >= ROW_LIMIT) {
                 return;
@@ -1387,7 +1383,7 @@ public final class StolenFinals {
                 }
             }
             if (sort == BLOCK) {
-                int joined = script.ends.numberWith(end[i], key);
+                int joined = end[i] == 0 ? script.ends.numberOf(key) : script.ends.numberWith(end[i], key);
                 if (joined != ABSENT) {
                     end[i] = joined;
                     join(ROLE_END);
