@@ -1,10 +1,8 @@
 import java.util.ArrayList;
 import java.util.Collections;
 import java.util.Comparator;
-import java.util.HashSet;
 import java.util.List;
 import java.util.NoSuchElementException;
-import java.util.Set;
 
 /**
  * The document told a second time, in the plainest way and without a thought for speed, so that
@@ -809,6 +807,10 @@ final class Model {
         return script;
     }
 
+    String row() {
+        return row;
+    }
+
     int rowLength() {
         return row.length();
     }
@@ -820,5 +822,4 @@ final class Model {
     int tapeSize() {
         return tape.size();
     }
-
 }

@@ -1,3 +1,4 @@
+import java.nio.charset.StandardCharsets;
 import java.util.ArrayList;
 import java.util.Arrays;
 import java.util.Collections;
@@ -182,7 +183,8 @@ public final class ModelTest {
         if (bytes.length > 300) {
             return;
         }
-        feed(bytes);
+        boolean letterBehind = random.nextBoolean() && bytes.length < 300;
+        feed(letterBehind ? Face.bytesOf(new String(bytes, StandardCharsets.ISO_8859_1) + "a") : bytes);
         call("script", faulty && random.nextInt(3) == 0 ? random.nextInt(bytes.length + 1) : bytes.length);
         call("trouble");
         call("fault");
@@ -295,12 +297,17 @@ public final class ModelTest {
             case 2: call("of", about(model.rowLength()), about(3)); break;
             case 3: call("item", about(model.itemCount()), about(7)); break;
             case 4: call("within"); break;
-            case 5: call("needed", about(model.rowLength())); break;
+            case 5: call("needed", random.nextInt(4) == 0 ? about(model.rowLength()) : someBreak()); break;
             case 6: call("bare"); break;
             case 7: call("letter", someKey(), about(5)); break;
             case 8: call("told", about(3), about(10)); break;
             default: codeCalls(); break;
         }
+    }
+
+    private int someBreak() {
+        int place = model.row().indexOf('|', random.nextInt(model.rowLength() + 1));
+        return place < 0 ? model.row().indexOf('|') : place;
     }
 
     private void codeCalls() {

@@ -312,6 +312,11 @@ public final class PromiseTest {
         due("no fault", x.fault(), 0);
         due("only n bytes are the text", Face.feed(x, "both k;vowel a;;;"), 17);
         due("script of 14", x.script(14), 2);
+        Face.feed(x, "both k;vowel abcdef");
+        due("letters behind the text are none of its last word", x.script(14), 2);
+        Face.feed(x, "both k;vowel a;old ;");
+        due("a text that ends where a key must be", x.script(19), -1);
+        due("its end", x.where(), 19);
     }
 
     private static void promise3TooMany() {
@@ -1104,6 +1109,19 @@ public final class PromiseTest {
         refused("ranked(15)", x, x.ranked(15), 1);
         refused("ranked(-1)", x, x.ranked(-1), 1);
         refused("ranked(HIGH)", x, x.ranked(HIGH), 1);
+        StolenFinals full = typed("g".repeat(79) + "z");
+        due("eighty items", full.about(7), 80);
+        due("no blocks", full.about(8), 0);
+        due("the last", full.ranked(79), 79);
+        due("its place", full.item(79, 5), 79);
+        due("its item", full.of(79, 0), 79);
+        refused("ranked(80)", full, full.ranked(80), 1);
+        refused("item(80, 0)", full, full.item(80, 0), 1);
+        due("bare", full.bare(), 0);
+        due("tidy", full.tidy(), 0);
+        full.back();
+        wouldBe(full, 'a', 79, 78, 0, 0);
+        wouldBe(full, 'k', 80, 79, 0, 0);
         StolenFinals y = scripted();
         refused("ranked in an empty row", y, y.ranked(0), 1);
         StolenFinals z = new StolenFinals();
