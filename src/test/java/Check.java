@@ -2,6 +2,8 @@
 final class Check {
     private static int wrong = 0;
     private static int looked = 0;
+    /** Stands ahead of what is wrong, so that the test can be found. */
+    static String heading = "";
 
     private Check() {
     }
@@ -10,7 +12,7 @@ final class Check {
         looked++;
         if (got != want) {
             wrong++;
-            System.out.println(what + " answered " + got + ", due is " + want);
+            System.out.println(heading + what + " answered " + got + ", due is " + want);
         }
     }
 
@@ -18,7 +20,7 @@ final class Check {
         looked++;
         if (!got.equals(want)) {
             wrong++;
-            System.out.println(what + " is \"" + got + "\", due is \"" + want + "\"");
+            System.out.println(heading + what + " is \"" + got + "\", due is \"" + want + "\"");
         }
     }
 
