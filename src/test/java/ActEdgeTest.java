@@ -229,6 +229,7 @@ public final class ActEdgeTest {
         StolenFinals x = Edge.scripted("lead g;both k;final t;vowel a;pair t k");
         Face.type(x, "gatka");
         Edge.due("the items", Edge.items(x), "0gat 0ka");
+        Edge.due("its end is t alone", x.item(0, 3), 2);
         Edge.due("stolen", x.about(9), 1);
     }
 
@@ -757,6 +758,12 @@ public final class ActEdgeTest {
         refusesCodes(Edge.typed("gg"), 39, 3);
         refusesCodes(Edge.typed("ggg", 1), 38, 3);
         refusesCodes(Edge.typed(ga(40)), 1, 3);
+    }
+
+    static void promise18CodesComeInAgainBehindTooMany() {
+        StolenFinals x = Edge.typed("g");
+        refusesCodes(x, 150, 3);
+        leaves(x, Face.codes(x, 0, 0), 3, "g|gaga", 6);
     }
 
     static void promise18CodesCountTheBreaksThatTheyNeed() {

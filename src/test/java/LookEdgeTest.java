@@ -94,6 +94,19 @@ public final class LookEdgeTest {
         ofs("ao|k", 2, 1, 1, -2, 0);
     }
 
+    static void promise21OfWhatIsNoMoreStolen() {
+        StolenFinals x = Edge.typed("gana");
+        Edge.due("of(2, 1)", x.of(2, 1), 1);
+        x.back();
+        Edge.answers("of(2, 1) behind back()", x, x.of(2, 1), 0);
+        Edge.answers("of(2, 2) behind back()", x, x.of(2, 2), 2);
+        x.undo();
+        x.goes(2);
+        x.brk();
+        Edge.answers("of(2, 1): a break", x, x.of(2, 1), 0);
+        Edge.answers("of(3, 1) behind a break", x, x.of(3, 1), 0);
+    }
+
     static void promise21OfAPlaceOutsideIsRefusedBy1() {
         StolenFinals x = Edge.typed("kan", 1);
         for (int place : new int[] {-1, 3, Edge.LOW, Edge.HIGH}) {
@@ -303,6 +316,18 @@ public final class LookEdgeTest {
         needs("ka|na|k|k", 2, 0);
         needs("ka|na|k|k", 5, 1);
         needs("ka|na|k|k", 7, 1);
+    }
+
+    static void promise24NeededBehindOtherLooks() {
+        StolenFinals x = Edge.typed("ka|na|k|k", 3);
+        x.would('k', 2);
+        Edge.answers("needed(2)", x, x.needed(2), 0);
+        x.bare();
+        Edge.answers("needed(2) again", x, x.needed(2), 0);
+        x.ways(2, 2);
+        Edge.answers("needed(2) once more", x, x.needed(2), 0);
+        Edge.answers("needed(5)", x, x.needed(5), 1);
+        Edge.answers("would(z, 0) behind it", x, x.would('z', 0), 5);
     }
 
     static void promise24NeededOfAKeyIsRefusedBy5() {
@@ -755,6 +780,58 @@ public final class LookEdgeTest {
         Edge.answers("ways(1, 1)", x, x.ways(1, 1), 3);
         Edge.answers("ways(2, 1)", x, x.ways(2, 1), 1);
         Edge.answers("ways(2, 2)", x, x.ways(2, 2), 8);
+    }
+
+    /** Of n, then of ITEMS: how many rows of these KEYS, each typed on its own, have so many; in column 9: all BLOCKS. */
+    private static long[][] typedRows(String script, String keys) {
+        long[][] found = new long[9][10];
+        int rows = 1;
+        StolenFinals x = null;
+        for (int n = 0; n <= 8; n++, rows *= keys.length()) {
+            for (int r = 0; r < rows; r++) {
+                // an object is used for so many calls alone
+                x = r % 100 == 0 ? Edge.scripted(script) : x;
+                StringBuilder row = new StringBuilder();
+                for (int i = 0, left = r; i < n; i++, left /= keys.length()) {
+                    row.append(keys.charAt(left % keys.length()));
+                }
+                int items = Face.type(x, row.toString());
+                found[n][items]++;
+                found[n][9] += x.about(8) == items ? 1 : 0;
+                x.undo();
+            }
+        }
+        return found;
+    }
+
+    private static void countsAgree(String script, String keys) {
+        long[][] want = typedRows(script, keys);
+        StolenFinals x = Edge.scripted(script);
+        for (int n = 0; n <= 8; n++) {
+            for (int items = 0; items <= 8; items++) {
+                Edge.due("ways(" + n + ", " + items + ") of " + script, x.ways(n, items), want[n][items]);
+            }
+            Edge.due("whole(" + n + ") of " + script, x.whole(n), want[n][9]);
+        }
+    }
+
+    static void promise29WaysAndWholeAgreeWithAllRowsTyped() {
+        countsAgree("both k;final t;vowel a;pair a a;twin k;pair k t;pair t k", "kta");
+        countsAgree("lead g;both k;vowel a;pair k k;twin g", "gka");
+        countsAgree("both k;vowel o;vowel a;pair a o;old z;pair k k", "koaz");
+    }
+
+    static void promise29WaysOfAScriptBehindAnother() {
+        StolenFinals fresh = Edge.scripted("both k;vowel a;old z");
+        StolenFinals x = Edge.scripted(Edge.WIDEST);
+        x.ways(8, 8);
+        Face.script(x, "both k;vowel a;old z");
+        for (int n = 0; n <= 8; n++) {
+            for (int items = 0; items <= 8; items++) {
+                Edge.due("ways(" + n + ", " + items + ")", x.ways(n, items), fresh.ways(n, items));
+            }
+            Edge.due("whole(" + n + ")", x.whole(n), fresh.whole(n));
+        }
     }
 
     static void promise29WaysOutsideIsRefusedBy2() {

@@ -232,6 +232,20 @@ public final class ScriptEdgeTest {
         Edge.due("letter", x.letter('w', 4), -2);
     }
 
+    static void promise3ScriptsLeaveNothingToTheNext() {
+        StolenFinals x = new StolenFinals();
+        for (int i = 0; i < 4; i++) {
+            Edge.due("the widest", Face.script(x, Edge.WIDEST), 22);
+            Edge.due("a fault behind all that", Face.script(x, Edge.WIDEST + ";pair q q"), StolenFinals.NONE);
+            Edge.due("its number", x.fault(), 3);
+            Edge.due("a small one", Face.script(x, "both a;vowel k;old s;twin a;pair k k;pair a a"), 3);
+            int[] want = {1, 1, 1, 2, 2, 3};
+            for (int what = 0; what < want.length; what++) {
+                Edge.due("about(" + what + ")", x.about(what), want[what]);
+            }
+        }
+    }
+
     // ---- 3: the TEXT's TOKENS
 
     static void promise3BlanksPartTokensAndMeanNothingElse() {
@@ -608,6 +622,15 @@ public final class ScriptEdgeTest {
         }
     }
 
+    static void promise6AboutBlocksAlone() {
+        String[] rows = {"", "|", "z", "k|a|z", "ka", "kaga", "kazga|n", "gana"};
+        int[] want = {0, 0, 0, 0, 1, 2, 2, 2};
+        for (int i = 0; i < rows.length; i++) {
+            StolenFinals x = Edge.typed(rows[i]);
+            Edge.answers("blocks of " + rows[i], x, x.about(8), want[i]);
+        }
+    }
+
     static void promise6AboutAFullRow() {
         StolenFinals x = Edge.typed("kakak".repeat(16));
         Edge.due("keys and breaks", x.about(6), 80);
@@ -756,6 +779,18 @@ public final class ScriptEdgeTest {
         Edge.answers("the end of 71", x, x.parts(71, 2), 5);
     }
 
+    static void promise9PartsOfTheSmallestScript() {
+        StolenFinals x = Edge.scripted("lead k;vowel a");
+        for (int what = 0; what < 3; what++) {
+            Edge.answers("parts(0, " + what + ")", x, x.parts(0, what), 0);
+        }
+        Edge.refuses("parts(1, 0)", x, 1, () -> x.parts(1, 0));
+        StolenFinals y = Edge.scripted("lead k;lead g;vowel a;vowel o");
+        Edge.answers("the lead of 2", y, y.parts(2, 0), 1);
+        Edge.answers("the middle of 3", y, y.parts(3, 1), 1);
+        Edge.refuses("parts(4, 0)", y, 1, () -> y.parts(4, 0));
+    }
+
     static void promise9PartsOfNoSuchCodeIsRefusedBy1() {
         StolenFinals x = Edge.scripted();
         for (int code : new int[] {-1, 72, 73, Edge.LOW, Edge.HIGH}) {
@@ -805,6 +840,13 @@ public final class ScriptEdgeTest {
 
     static void promise10SpeltOfASingleEnd() {
         spells(3, "gat");
+    }
+
+    static void promise10SpeltOfTheSmallestScript() {
+        StolenFinals x = Edge.scripted("lead k;vowel a");
+        Edge.answers("spelt(0, 0)", x, x.spelt(0, 0), 'k');
+        Edge.answers("spelt(0, 1)", x, x.spelt(0, 1), 'a');
+        Edge.answers("spelt(0, 2)", x, x.spelt(0, 2), -2);
     }
 
     static void promise10SpeltFarBeyondIsMinus2() {
