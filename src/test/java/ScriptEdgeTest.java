@@ -246,6 +246,16 @@ public final class ScriptEdgeTest {
         }
     }
 
+    static void promise3PairsAreThoseOfTheScriptThatIs() {
+        StolenFinals x = new StolenFinals();
+        for (String pair : new String[] {"ao", "oo", "aa", "oa", "ao"}) {
+            Face.script(x, "lead g;vowel a;vowel o;pair " + pair.charAt(0) + " " + pair.charAt(1));
+            Edge.due("spelt by its second key", x.spelt(2, 2), pair.charAt(1));
+            Edge.due("one item", Face.type(x, pair), 1);
+            Edge.due("its middle", x.item(0, 2), 2);
+        }
+    }
+
     // ---- 3: the TEXT's TOKENS
 
     static void promise3BlanksPartTokensAndMeanNothingElse() {
