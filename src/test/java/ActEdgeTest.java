@@ -655,6 +655,18 @@ public final class ActEdgeTest {
         leaves(x, Face.codes(x, 18, 54, 36, 0), 4, "ka|kkanaga", 10);
     }
 
+    static void promise18CodesHaveNoBreakMoreThanARowThatIsBare() {
+        for (int code = 0; code < 1430; code += 3) {
+            StolenFinals x = Edge.scripted(Edge.WIDEST);
+            int[] codes = {code, (code * 7 + 11) % 1430, code};
+            Edge.due("blocks of " + code, Face.codes(x, codes), 3);
+            Edge.due("breaks of " + code, x.about(10), x.bare());
+            for (int i = 0; i < 3; i++) {
+                Edge.due("block " + i + " of " + code, x.item(i, 4), codes[i]);
+            }
+        }
+    }
+
     static void promise18CodesAreTwoBytesTheHigherFirst() {
         StolenFinals x = Edge.scripted(Edge.WIDEST);
         Edge.due("codes of 258", Face.codes(x, 258), 1);

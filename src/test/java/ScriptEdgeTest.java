@@ -852,6 +852,26 @@ public final class ScriptEdgeTest {
         spells(3, "gat");
     }
 
+    static void promise10SpeltOfEveryCodeOfTheWidestScript() {
+        String[] leads = "a b c d f g h i j aa cc bb dd".split(" ");
+        String[] middles = "k l m n o p q r kl ll qr".split(" ");
+        String[] ends = {"", "c", "d", "e", "j", "cd", "dd", "ec", "ee", "de"};
+        int code = 0;
+        for (String lead : leads) {
+            for (String middle : middles) {
+                StolenFinals x = Edge.scripted(Edge.WIDEST);
+                for (String end : ends) {
+                    StringBuilder got = new StringBuilder();
+                    for (int k = 0; k < 7 && x.spelt(code, k) != -2; k++) {
+                        got.append((char) x.spelt(code, k));
+                    }
+                    Edge.due("code " + code, got.toString(), lead + middle + end);
+                    code++;
+                }
+            }
+        }
+    }
+
     static void promise10SpeltOfTheSmallestScript() {
         StolenFinals x = Edge.scripted("lead k;vowel a");
         Edge.answers("spelt(0, 0)", x, x.spelt(0, 0), 'k');
