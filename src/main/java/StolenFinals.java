@@ -67,8 +67,9 @@ public final class StolenFinals {
     /** Above every CODE, so that one number tells an ITEM's SORT first and then its number. */
     private static final int ORDER_STEP = 1 << 16;
 
-    private final Tape tape = new Tape();
-    private final ScriptReader reader = new ScriptReader(tape);
+    private final ScriptReader reader = new ScriptReader();
+    /** Its reader has made it, so that no constructor is handed a part of an object still in the making. */
+    private final Tape tape = reader.tape;
     private final Row row = new Row();
     private final Row draft = new Row();
     private final Reading now = new Reading();
@@ -993,16 +994,12 @@ public final class StolenFinals {
 
     /** Reads THE TEXT of a SCRIPT from the left on, up to its first FAULT. */
     private static final class ScriptReader {
-        private final Tape tape;
+        private final Tape tape = new Tape();
         private int length = 0;
         private int tokenStart = 0;
         private int tokenEnd = 0;
         private int fault = 0;
         private int place = NONE;
-
-        ScriptReader(Tape source) {
-            tape = source;
-        }
 
         void read(int n, Script told) {
             length = n;

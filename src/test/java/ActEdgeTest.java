@@ -48,8 +48,8 @@ public final class ActEdgeTest {
     }
 
     static void promise11KeyThatIsntToldIsRefusedBy1() {
-        StolenFinals x = Edge.typed("kan", 1);
         for (int key : new int[] {'b', 'y', 96, 123, 124, 32, 59, 0, -1, 97 + 256, 97 - 256, Edge.LOW, Edge.HIGH}) {
+            StolenFinals x = Edge.typed("kan", 1);
             Edge.refuses("key(" + key + ")", x, 1, () -> x.key(key));
         }
     }
@@ -68,12 +68,10 @@ public final class ActEdgeTest {
     }
 
     static void promise11KeyInAFullRowIsRefusedBy3() {
-        StolenFinals x = Edge.typed(ga(40));
-        Edge.refuses("at the end", x, 3, () -> x.key('k'));
-        x.goes(0);
-        Edge.refuses("at place 0", x, 3, () -> x.key('k'));
-        x.goes(41);
-        Edge.refuses("within", x, 3, () -> x.key('k'));
+        for (int caret : new int[] {80, 0, 41}) {
+            StolenFinals x = Edge.typed(ga(40), caret);
+            Edge.refuses("at " + caret, x, 3, () -> x.key('k'));
+        }
     }
 
     static void promise11KeyOf1IsToldAhead() {
@@ -392,7 +390,9 @@ public final class ActEdgeTest {
         StolenFinals y = Edge.typed(ga(40));
         Face.feed(y, "bad");
         Edge.refuses("2 ahead of 5 and 3", y, 2, () -> y.type(21));
-        Edge.refusesAndEmpties("5 ahead of 3", y, 5, () -> y.type(3));
+        StolenFinals z = Edge.typed(ga(40));
+        Face.feed(z, "bad");
+        Edge.refusesAndEmpties("5 ahead of 3", z, 5, () -> z.type(3));
     }
 
     // ---- 14: back
@@ -795,7 +795,9 @@ public final class ActEdgeTest {
         StolenFinals x = Edge.typed(ga(40));
         Face.feed(x, "\0\u0048\0");
         Edge.refuses("2 ahead of 5 and 3", x, 2, () -> x.codes(3));
-        Edge.refusesAndEmpties("5 ahead of 3", x, 5, () -> x.codes(2));
+        StolenFinals y = Edge.typed(ga(40));
+        Face.feed(y, "\0\u0048\0");
+        Edge.refusesAndEmpties("5 ahead of 3", y, 5, () -> y.codes(2));
     }
 
     // ---- 19: undo

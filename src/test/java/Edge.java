@@ -125,21 +125,35 @@ final class Edge {
         due("fault() of " + text, x.fault(), 0);
     }
 
-    /** THE SCRIPT's numbers, THE ROW, THE CARET, the ITEMS and how many ACTS can be undone. */
+    /**
+     * THE SCRIPT's numbers, THE ROW, THE CARET, where the ITEMS begin and how many ACTS can be undone. Of
+     * each place and each ITEM one call alone: two states of a full row must go into an object's 512 calls.
+     */
     static String state(StolenFinals x) {
-        if (x.about(0) < 0) {
+        int[] facts = new int[13];
+        facts[0] = x.about(0);
+        if (facts[0] < 0) {
             return "no script";
         }
-        StringBuilder text = new StringBuilder();
-        for (int what = 0; what < 13; what++) {
-            text.append(x.about(what)).append(' ');
+        StringBuilder text = new StringBuilder().append(facts[0]);
+        for (int what = 1; what < 13; what++) {
+            facts[what] = x.about(what);
+            text.append(' ').append(facts[what]);
         }
+        text.append(' ');
         for (int sort = 0; sort < 3; sort++) {
-            for (int k = 0; k < x.about(sort); k++) {
+            for (int k = 0; k < facts[sort]; k++) {
                 text.append((char) x.told(sort, k));
             }
         }
-        return text.append(' ').append(Face.row(x)).append(' ').append(items(x)).toString();
+        text.append(' ');
+        for (int place = 0; place < facts[6]; place++) {
+            text.append((char) x.at(place));
+        }
+        for (int i = 0; i < facts[7]; i++) {
+            text.append(' ').append(x.item(i, 5));
+        }
+        return text.toString();
     }
 
     /** The ITEMS as texts of their KEYS, with their SORTS. */

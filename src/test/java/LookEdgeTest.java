@@ -115,8 +115,8 @@ public final class LookEdgeTest {
     }
 
     static void promise21OfSomethingElseIsRefusedBy1() {
-        StolenFinals x = Edge.typed("ka|", 1);
         for (int what : new int[] {-1, 3, Edge.LOW, Edge.HIGH}) {
+            StolenFinals x = Edge.typed("ka|", 1);
             Edge.refuses("of(0, " + what + ")", x, 1, () -> x.of(0, what));
             Edge.refuses("of(2, " + what + ")", x, 1, () -> x.of(2, what));
         }
@@ -454,15 +454,15 @@ public final class LookEdgeTest {
     }
 
     static void promise26WouldOfNoKeyIsRefusedBy1() {
-        StolenFinals x = Edge.typed("kan", 1);
         for (int key : new int[] {'b', 96, 123, 125, 32, 0, -1, 124 + 256, 97 + 256, Edge.LOW, Edge.HIGH}) {
+            StolenFinals x = Edge.typed("kan", 1);
             Edge.refuses("would(" + key + ", 0)", x, 1, () -> x.would(key, 0));
         }
     }
 
     static void promise26WouldOfSomethingElseIsRefusedBy1() {
-        StolenFinals x = Edge.typed("kan", 1);
         for (int what : new int[] {-1, 4, Edge.LOW, Edge.HIGH}) {
+            StolenFinals x = Edge.typed("kan", 1);
             Edge.refuses("would(k, " + what + ")", x, 1, () -> x.would('k', what));
             Edge.refuses("would(124, " + what + ")", x, 1, () -> x.would(124, what));
         }
@@ -481,18 +481,20 @@ public final class LookEdgeTest {
     }
 
     static void promise26WouldInAFullRowIsRefusedBy3() {
-        StolenFinals x = Edge.typed(ga(40), 3);
         for (int what = 0; what < 4; what++) {
             int asked = what;
+            StolenFinals x = Edge.typed(ga(40), 3);
             Edge.refuses("would(a, " + what + ")", x, 3, () -> x.would('a', asked));
-            Edge.refuses("would(124, " + what + ")", x, 3, () -> x.would(124, asked));
+            StolenFinals y = Edge.typed(ga(40), 3);
+            Edge.refuses("would(124, " + what + ")", y, 3, () -> y.would(124, asked));
         }
     }
 
     static void promise26WouldTellsTheFirstTrouble() {
         StolenFinals x = Edge.typed(ga(40), 3);
         Edge.refuses("no key in a full row", x, 1, () -> x.would('b', 0));
-        Edge.refuses("something else in a full row", x, 1, () -> x.would('a', 4));
+        StolenFinals y = Edge.typed(ga(40), 3);
+        Edge.refuses("something else in a full row", y, 1, () -> y.would('a', 4));
     }
 
     // ---- 27: seek
@@ -598,9 +600,9 @@ public final class LookEdgeTest {
         seeks(ga(19), "g".repeat(20), 0, -2);
         seeks(ga(40), "g".repeat(20), 20, 20);
         seeks(ga(40), "g".repeat(20), 21, -2);
-        StolenFinals x = Edge.typed(ga(40), 1);
-        Face.feed(x, "g".repeat(40));
         for (int n : new int[] {21, 40, Edge.HIGH}) {
+            StolenFinals x = Edge.typed(ga(40), 1);
+            Face.feed(x, "g".repeat(40));
             Edge.refuses("seek(" + n + ", 0)", x, 2, () -> x.seek(n, 0));
         }
     }
@@ -835,8 +837,8 @@ public final class LookEdgeTest {
     }
 
     static void promise29WaysOutsideIsRefusedBy2() {
-        StolenFinals x = Edge.typed("kan", 1);
         for (int odd : new int[] {-1, 9, Edge.LOW, Edge.HIGH}) {
+            StolenFinals x = Edge.typed("kan", 1);
             Edge.refuses("ways(" + odd + ", 0)", x, 2, () -> x.ways(odd, 0));
             Edge.refuses("ways(0, " + odd + ")", x, 2, () -> x.ways(0, odd));
             Edge.refuses("ways(" + odd + ", " + odd + ")", x, 2, () -> x.ways(odd, odd));
@@ -1133,13 +1135,13 @@ public final class LookEdgeTest {
         String[] names = {"script", "about", "letter", "code", "parts", "spelt", "key", "type", "goes", "codes", "at",
             "of", "item", "needed", "would", "seek", "ranked", "ways", "whole"};
         List<String> numbers = List.of("script", "type", "goes", "codes", "ways", "whole");
-        StolenFinals x = Edge.typed("kan|a", 2);
-        x.feed(0, 0, 0, 0, 0);
         for (String name : names) {
+            StolenFinals x = Edge.typed("kan|a", 2);
+            x.feed(0, 0, 0, 0, 0);
             boolean number = numbers.contains(name);
             Edge.refuses(name, x, number ? 2 : 1, () -> Face.call(x, name, 1000, 1000, 1000));
+            Edge.due("undo() goes on behind " + name, x.undo(), 1);
+            Edge.due("the caret behind " + name, x.about(11), 5);
         }
-        Edge.due("undo() goes on", x.undo(), 1);
-        Edge.due("the caret", x.about(11), 5);
     }
 }

@@ -652,8 +652,8 @@ public final class ScriptEdgeTest {
     }
 
     static void promise6AboutSomethingElseIsRefusedBy1() {
-        StolenFinals x = Edge.typed("kan", 1);
         for (int what : new int[] {-1, 13, -2, 14, Edge.LOW, Edge.HIGH}) {
+            StolenFinals x = Edge.typed("kan", 1);
             Edge.refuses("about(" + what + ")", x, 1, () -> x.about(what));
         }
     }
@@ -724,7 +724,8 @@ public final class ScriptEdgeTest {
         Edge.answers("letter(97, 0)", x, x.letter(97, 0), 0);
         Edge.answers("letter(122, 0)", x, x.letter(122, 0), 3);
         for (int key : new int[] {96, 123, 98, 121, 124, 0, -1, 97 + 256, 97 - 256, 65, Edge.LOW, Edge.HIGH}) {
-            Edge.refuses("letter(" + key + ", 0)", x, 1, () -> x.letter(key, 0));
+            StolenFinals y = Edge.scripted("lead a;vowel z");
+            Edge.refuses("letter(" + key + ", 0)", y, 1, () -> y.letter(key, 0));
         }
     }
 
@@ -761,9 +762,9 @@ public final class ScriptEdgeTest {
     }
 
     static void promise8CodeOfNumbersOutsideIsRefusedBy1() {
-        StolenFinals x = Edge.scripted();
         int[] most = {3, 2, 5};
         for (int part = 0; part < 3; part++) {
+            StolenFinals x = Edge.scripted();
             for (int odd : new int[] {-1, most[part] + 1, Edge.LOW, Edge.HIGH}) {
                 int[] a = new int[3];
                 a[part] = odd;

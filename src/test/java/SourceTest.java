@@ -126,7 +126,20 @@ public final class SourceTest {
             Check.due("thrown", thrown.group(1), "NoSuchElementException");
         }
         Check.holds("ASCII alone", text.chars().allMatch(c -> c < 128));
+        promise1TheConstructorHandsOutNothing(text);
         lengths(text.split("\n"));
+    }
+
+    /** Rule 12: what a field begins with is made of numbers and constants, never of another field or of this. */
+    private static void promise1TheConstructorHandsOutNothing(String text) {
+        Matcher made = Pattern.compile("(?m)^ {4,8}private (?:final )?\\w+ \\w+ = new (\\w+)\\((.*)\\);$").matcher(text);
+        int found = 0;
+        while (made.find()) {
+            found++;
+            Check.holds("nothing is handed to new " + made.group(1), made.group(2).matches("[0-9A-Z_]*"));
+        }
+        Check.holds("fields that hold objects were found", found > 10);
+        Check.holds("no object hands itself out", !Pattern.compile("[(,] *this *[,)]").matcher(text).find());
     }
 
     /** A method's lines stand between a line that opens it and the brace of the same depth. */
