@@ -256,6 +256,23 @@ public final class ScriptEdgeTest {
         }
     }
 
+    /** Several of each, since an object may keep more than one SCRIPT's room and use it again. */
+    static void promise3TwinsAndPairsOfAnEarlierScriptAreGone() {
+        StolenFinals x = new StolenFinals();
+        for (int i = 0; i < 3; i++) {
+            Face.script(x, "both k;vowel a;twin k;pair a a;pair k k");
+            Edge.due("kk, aa, kk is one item", Face.type(x, "kkaakk"), 1);
+        }
+        for (int i = 0; i < 3; i++) {
+            Face.script(x, "both k;vowel a");
+            Edge.answers("k has no twin", x, x.letter('k', 4), -2);
+            Edge.due("nothing joins", Face.type(x, "kkaakk"), 5);
+            Edge.due("the items", Edge.items(x), "1k 0ka 2a 1k 1k");
+            x.undo();
+            Edge.due("no pair of ends", Face.type(x, "kakk"), 2);
+        }
+    }
+
     // ---- 3: the TEXT's TOKENS
 
     static void promise3BlanksPartTokensAndMeanNothingElse() {
